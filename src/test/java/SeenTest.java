@@ -96,6 +96,10 @@ public final class SeenTest {
         four.tear();
         four.shadow(9, 2);
         Due.due("27 a nun of four layers", four.is(1), 19);
+        four.tear();
+        four.shadow(8, 1);
+        Due.due("27 anybody of ear 8 or 9", four.is(1), 8);
+        Due.due("27 the brightest light", four.is(2), 9);
     }
 
     private static void promise28Met() {

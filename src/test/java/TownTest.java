@@ -86,6 +86,14 @@ public final class TownTest {
         Due.due("3 LIGHT untold", y.told(5), 5);
         y.dawn(1);
         Due.due("3 LIGHT untold, DAY 1", y.told(5), 5);
+        Due.townOf(y, "n2 1;m9,8;");
+        Due.due("3 LIGHT of another town", y.told(5), 9);
+        Due.townOf(y, "n2 1;");
+        Due.due("3 LIGHT untold again", y.told(5), 5);
+        Due.due("3 a fault behind lights", Due.townOf(y, "n2 1;m7;x"), -11);
+        Due.due("3 LIGHT as it was", y.told(5), 5);
+        Due.due("3 lights behind a fault", Due.townOf(y, "n2 1;m4;"), 0);
+        Due.due("3 LIGHT", y.told(5), 4);
     }
 
     private static void promise3WhatATownEnds() {
@@ -226,6 +234,11 @@ public final class TownTest {
         x.dawn(1);
         Due.due("5 COVER behind two", x.told(9), 0b0010);
         Due.due("5 FULLEST behind two", x.told(10), 0);
+        GiltCockcrow one = Due.in("n3 0;p2 0 9;");
+        Due.due("5 EXPLAINED of one", one.told(13), 1);
+        Due.due("5 COVER of one", one.told(9), 1);
+        one.dawn(1);
+        Due.due("5 TORN of one", one.told(8), 1);
         GiltCockcrow y = Due.in("n4 3;");
         Due.due("5 COVER of nobody", y.told(9), 0);
         Due.due("5 FULLEST of nobody", y.told(10), NONE);
