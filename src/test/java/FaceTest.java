@@ -62,7 +62,8 @@ public final class FaceTest {
         for (Field field : face.getDeclaredFields()) {
             if (!Modifier.isPrivate(field.getModifiers())) {
                 fields.add(field.getName());
-                Due.due(field + " is a constant", field.getModifiers(), Modifier.PUBLIC | Modifier.STATIC | Modifier.FINAL);
+                int constant = Modifier.PUBLIC | Modifier.STATIC | Modifier.FINAL;
+                Due.due(field + " is a constant", field.getModifiers(), constant);
             }
         }
         Due.dueTrue("constants " + fields, fields.equals(new TreeSet<>(Set.of(CONSTANTS))));

@@ -111,7 +111,8 @@ final class PlainCockcrow {
                 want(tokens, i++, ";");
                 while (want(tokens, i, "npm$") != '$') {
                     Token head = tokens.get(i++);
-                    if (head.kind == 'n' || head.kind == 'm' && !newLights.isEmpty() || head.kind == 'p' && next.people.size() == 8) {
+                    boolean again = head.kind == 'n' || head.kind == 'm' && !newLights.isEmpty();
+                    if (again || head.kind == 'p' && next.people.size() == 8) {
                         throw new Fault(3, head.at);
                     }
                     if (head.kind == 'p') {
@@ -251,14 +252,8 @@ final class PlainCockcrow {
     }
 
     int dawn(int many) {
-        if (many < 1 || many > 60) {
-            return OUTSIDE;
-        }
-        if (n == 0) {
-            return NOT;
-        }
-        if (world.days > 9000) {
-            return FULL;
+        if (refusal(many) != 0) {
+            return refusal(many);
         }
         push();
         for (int i = 0; i < many; i++) {
@@ -333,14 +328,8 @@ final class PlainCockcrow {
     }
 
     int drift(int many) {
-        if (many < 1 || many > 60) {
-            return OUTSIDE;
-        }
-        if (n == 0) {
-            return NOT;
-        }
-        if (world.days > 9000) {
-            return FULL;
+        if (refusal(many) != 0) {
+            return refusal(many);
         }
         push();
         for (int i = 0; i < many; i++) {
@@ -696,6 +685,16 @@ final class PlainCockcrow {
 
     private boolean noSet(int set) {
         return set < 0 || set >= 1 << people().size();
+    }
+
+    private int refusal(int dawns) {
+        if (dawns < 1 || dawns > 60) {
+            return OUTSIDE;
+        }
+        if (n == 0) {
+            return NOT;
+        }
+        return world.days > 9000 ? FULL : 0;
     }
 
     private void push() {

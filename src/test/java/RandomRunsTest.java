@@ -109,7 +109,8 @@ public final class RandomRunsTest {
 
     private int set() {
         int all = (1 << x.told(2)) - 1;
-        return random.nextInt(20) == 0 ? random.nextInt() : random.nextInt(all + 1) & (random.nextInt(4) == 0 ? all : random.nextInt(all + 1));
+        int some = random.nextInt(4) == 0 ? all : random.nextInt(all + 1);
+        return random.nextInt(20) == 0 ? random.nextInt() : random.nextInt(all + 1) & some;
     }
 
     private void call(int which) {
