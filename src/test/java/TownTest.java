@@ -201,6 +201,18 @@ public final class TownTest {
         text.setLength(239);
         Due.due("4 the last letter", Due.townOf(x, text + "p"), -11);
         Due.due("4 its fault is at the end", x.fault(), 240);
+        text.setLength(0);
+        while (text.length() < 236) {
+            text.append(' ');
+        }
+        Due.due("4 a ';' is missing at 240", Due.townOf(x, text + "n2 0"), -11);
+        Due.due("4 it is missing at the end", x.fault(), 240);
+        Due.due("4 a longer text", Due.townOf(x, "n2 0;p0 0 7;m1,2;"), 1);
+        Due.due("4 its letters are gone: ';'", Due.townOf(x, "n2 0"), -11);
+        Due.due("4 fault()", x.fault(), 4);
+        Due.due("4 its letters are gone: a figure", Due.townOf(x, "n2 0;p0 0 "), -11);
+        Due.due("4 fault()", x.fault(), 10);
+        Due.due("4 its letters are gone: the clauses", Due.townOf(x, "n2 0;"), 0);
     }
 
     private static void promise5Told() {
