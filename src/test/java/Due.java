@@ -1,9 +1,15 @@
+import java.io.IOException;
+import java.nio.file.Files;
+import java.nio.file.Path;
+
 /** Counts answers, prints each that is not as due, and ends the program by what was counted. */
 final class Due {
     static final String TOWN = "n7 2;p0 0 5;p1 3 7;p2 2 3;p3 6 9;p4 1 6;p0 4 0;m5,8,2;";
 
     private static int asked = 0;
     private static int wrong = 0;
+    private static String sentence = "";
+    private static String document;
 
     private Due() {
     }
@@ -12,8 +18,26 @@ final class Due {
         asked++;
         if (got != want) {
             wrong++;
-            System.out.println(call + " answered " + got + ", due is " + want);
+            System.out.println(sentence + call + " answered " + got + ", due is " + want);
         }
+    }
+
+    /** The words of the document that the answers from here on belong to: they must stand there just so. */
+    static void sentence(String words) {
+        sentence = "";
+        dueTrue("the document has '" + words + "'", document().isEmpty() || document().contains(words));
+        sentence = "'" + words + "': ";
+    }
+
+    private static String document() {
+        if (document == null) {
+            try {
+                document = Files.readString(Path.of("../shared/DOC.md"));
+            } catch (IOException e) {
+                document = "";
+            }
+        }
+        return document;
     }
 
     static void dueTrue(String what, boolean holds) {
