@@ -14,6 +14,8 @@ public final class RefusalsTest {
 
     public static void main(String[] args) {
         theStatesAreWhatTheyAreToBe();
+        unknownIsAheadOfAll();
+        outsideIsAheadOfNotAndFull();
         feed();
         told();
         person();
@@ -58,6 +60,49 @@ public final class RefusalsTest {
         GiltCockcrow late = Edge.onDay9001();
         Due.due("DAYS", late.told(4), 9001);
         Due.due("what can be undone", late.told(15), 16);
+    }
+
+    /** Each of these would be refused for two reasons at least, or for three. */
+    private static void unknownIsAheadOfAll() {
+        Due.sentence("REFUSALS, of several the first in this order: UNKNOWN");
+        Edge.Call[] inATown = {
+            x -> x.person(6, 5), x -> x.ear(6, 10), x -> x.layers(6, 201), x -> x.know(6, 10), x -> x.crows(64, 2),
+            x -> x.leave(6, 0), x -> x.leave(0, 7), x -> x.leave(6, 7),
+        };
+        Edge.Call[] inNone = {
+            x -> x.person(0, 5), x -> x.ear(0, 10), x -> x.layers(0, 201), x -> x.know(0, 10), x -> x.crows(1, 2),
+            x -> x.crows(1, 0), x -> x.together(1), x -> x.leave(0, 0), x -> x.goBack(2),
+        };
+        Edge.Call[] ofFullRows = {
+            x -> x.met(6, 0, true), x -> x.met(0, 6, true), x -> x.met(0, 0, true), x -> x.write(6, 0, true),
+            x -> x.write(0, 7, true), x -> x.goBack(2),
+        };
+        for (int i = 0; i < inATown.length; i++) {
+            Edge.refused("in a town, " + i, UNKNOWN, Edge::busy, inATown[i]);
+        }
+        for (int i = 0; i < inNone.length; i++) {
+            Edge.refused("without a town, " + i, UNKNOWN, Edge::none, inNone[i]);
+        }
+        for (int i = 0; i < ofFullRows.length; i++) {
+            Edge.refused("all rows being full, " + i, UNKNOWN, RefusalsTest::allSeen, ofFullRows[i]);
+        }
+    }
+
+    private static void outsideIsAheadOfNotAndFull() {
+        Due.sentence("OUTSIDE (another number out of its bounds), NOT (not now, as told), FULL.");
+        Edge.Call[] inNone = {
+            x -> x.dawn(0), x -> x.drift(61), x -> x.crow(0), x -> x.crow(10), x -> x.crows(0, 2), x -> x.is(3), x -> x.is(-1),
+        };
+        for (int i = 0; i < inNone.length; i++) {
+            Edge.refused("ahead of NOT, " + i, OUTSIDE, Edge::none, inNone[i]);
+        }
+        Edge.Call[] late = {x -> x.dawn(0), x -> x.dawn(61), x -> x.drift(0), x -> x.drift(61)};
+        for (int i = 0; i < late.length; i++) {
+            Edge.refused("ahead of FULL, " + i, OUTSIDE, Edge::onDay9001, late[i]);
+        }
+        Edge.refused("a letter ahead of FULL", OUTSIDE, RefusalsTest::with240Letters, x -> x.feed(256));
+        Edge.refused("a light ahead of FULL", OUTSIDE, RefusalsTest::allSeen, x -> x.shadow(0, 0));
+        Edge.refused("how far ahead of FULL", OUTSIDE, RefusalsTest::allSeen, x -> x.shadow(1, 7));
     }
 
     private static void feed() {
